@@ -500,7 +500,6 @@ public final class VillageOven {
     /** The heats of all layers, with what heats, wets and cools them; bread is none of its business. */
     private static final class Masonry {
         final long[] heats = new long[RINGS * LAYERS];
-        final long[] warmths = new long[RINGS * LAYERS];
         final int[] damps = new int[RINGS];
         final int[] cracks = new int[RINGS];
         final int[] logSizes = new int[MOST_LOGS];
@@ -574,14 +573,6 @@ public final class VillageOven {
             return taken;
         }
 
-        private void measure() {
-            for (int ring = 0; ring < RINGS; ring++) {
-                for (int layer = 0; layer < LAYERS; layer++) {
-                    warmths[ring * LAYERS + layer] = warmthOf(ring, layer);
-                }
-            }
-        }
-
         private void burn() {
             if (logCount <= 0) {
                 return;
@@ -612,27 +603,24 @@ public final class VillageOven {
         }
 
         private void soak() {
-            measure();
             for (int ring = 0; ring < RINGS; ring++) {
-                int lining = ring * LAYERS + LINING;
-                int body = ring * LAYERS + BODY;
-                int skin = ring * LAYERS + SKIN;
-                long toBody = 2 * (warmths[lining] - warmths[body]);
-                long toSkin = (2 + cracks[ring]) * (warmths[body] - warmths[skin]);
-                heats[lining] -= toBody;
-                heats[body] += toBody - toSkin;
-                heats[skin] += toSkin;
+                long body = warmthOf(ring, BODY);
+                long toBody = 2 * (warmthOf(ring, LINING) - body);
+                long toSkin = (2 + cracks[ring]) * (body - warmthOf(ring, SKIN));
+                heats[ring * LAYERS + LINING] -= toBody;
+                heats[ring * LAYERS + BODY] += toBody - toSkin;
+                heats[ring * LAYERS + SKIN] += toSkin;
             }
         }
 
+        /** Each warmth is read before the flow from the ring ahead changes it: all comes at once. */
         private void evenSides() {
-            measure();
+            long here = warmthOf(0, LINING);
             for (int ring = 0; ring < RINGS - 1; ring++) {
-                int here = ring * LAYERS + LINING;
-                int there = (ring + 1) * LAYERS + LINING;
-                long toNext = warmths[here] - warmths[there];
-                heats[here] -= toNext;
-                heats[there] += toNext;
+                long there = warmthOf(ring + 1, LINING);
+                heats[ring * LAYERS + LINING] -= here - there;
+                heats[(ring + 1) * LAYERS + LINING] += here - there;
+                here = there;
             }
         }
 
@@ -719,12 +707,6 @@ public final class VillageOven {
         int bigPlaces;
         int ones;
         int crowns;
-
-        void empty() {
-            bigPlaces = 0;
-            ones = 0;
-            crowns = 0;
-        }
 
         /** times 1 puts one of a kind in, times -1 takes it out. */
         void change(Kinds kinds, int kind, int times) {
@@ -869,6 +851,7 @@ public final class VillageOven {
         final boolean[] good = new boolean[MOST_ORDERS * CHOICES];
         /** How many of the orders from here on have any good choice. */
         final int[] hope = new int[MOST_ORDERS + 1];
+        /** Of each ring between two openings; all empty but while a plan is searched. */
         final Load[] loads = new Load[(MOST_OPENINGS - 1) * RINGS];
         final int[] tried = new int[MOST_ORDERS];
         final int[] chosen = new int[MOST_ORDERS];
@@ -956,9 +939,6 @@ public final class VillageOven {
 
         private void choose() {
             judgeChoices();
-            for (int i = 0; i < loads.length; i++) {
-                loads[i].empty();
-            }
             mostBaked = NONE;
             search(this, 0, 0);
         }

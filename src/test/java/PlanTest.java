@@ -9,6 +9,8 @@ public final class PlanTest {
         roomInPlans();
         holesInPlans();
         oneBehindTheOther();
+        mostAheadOfFirst();
+        scorchedInPlans();
         openingsCool();
         doorOfNowIsNotOpen();
         plansLeaveTheOvenAlone();
@@ -16,6 +18,7 @@ public final class PlanTest {
         lastFinds();
         woodBounds();
         woodCounts();
+        woodOfThirty();
         woodBehindWhatIsThere();
         Check.finish();
     }
@@ -182,6 +185,39 @@ public final class PlanTest {
         planned("third", x, 2, 3, 0, 3);
     }
 
+    private static void mostAheadOfFirst() {
+        VillageOven x = new VillageOven();
+        x.air(0);
+        x.kind(1, false, 1, 1, 8, 9, 0);
+        x.kind(3, false, 1, 1, 9, 9, 0);
+        x.kind(2, false, 1, 1, 9, 9, 0);
+        x.order(0);
+        x.opening(0);
+        x.opening(1);
+        planned("alone it goes in ring 1", x, 0, 1, 0, 1);
+        x.order(1);
+        Check.due("both", x.plan(), 2);
+        planned("it leaves ring 1 to the one that bakes there alone", x, 0, 2, 0, 1);
+        planned("which takes all of it", x, 1, 1, 0, 1);
+        x.order(2);
+        Check.due("not all three", x.plan(), 2);
+        planned("of several with two the first", x, 0, 1, 0, 1);
+        planned("of several with two the first", x, 1, -1, -1, -1);
+        planned("of several with two the first", x, 2, 1, 0, 1);
+    }
+
+    private static void scorchedInPlans() {
+        for (int may = 0; may < 4; may++) {
+            VillageOven x = new VillageOven();
+            x.kind(1, false, 2, 9, 10, 10, may);
+            x.second(0, 2, 0, 9);
+            x.order(0);
+            x.opening(0);
+            x.opening(4);
+            Check.due("scorched twice, " + may + " allowed", x.plan(), may < 2 ? 0 : 1);
+        }
+    }
+
     private static void openingsCool() {
         VillageOven x = new VillageOven();
         x.air(0);
@@ -202,6 +238,13 @@ public final class PlanTest {
         Check.due("one opening is none to come out at", x.plan(), 0);
         x.opening(2);
         planned("the tick ahead was shut", x, 0, 3, 1, 2);
+        x.clear();
+        x.kind(1, false, 1, 1, 0, 5, 0);
+        x.order(4);
+        x.opening(0);
+        x.opening(2);
+        x.opening(3);
+        planned("the last ring between the last openings", x, 0, 3, 2, 3);
     }
 
     private static void doorOfNowIsNotOpen() {
@@ -323,6 +366,21 @@ public final class PlanTest {
         Check.due("1000 by two", x.wood(1000, 0, 0, 50, 0), 2);
         Check.due("1001 by three", x.wood(1001, 0, 0, 50, 0), 3);
         Check.holds("it cools while it rests", x.wood(570, 0, 5, 50, 0) > 1);
+    }
+
+    private static void woodOfThirty() {
+        VillageOven y = new VillageOven();
+        long before = 0;
+        for (int i = 0; i < 30; i++) {
+            before = y.heat(0, 0, 1);
+            y.log(20, 0);
+            y.ticks(1);
+        }
+        int warm = (int) y.heat(0, 0, 1);
+        Check.holds("it grows warmer to the end", warm > before);
+        VillageOven x = new VillageOven();
+        Check.due("thirty just do", x.wood(warm, 0, 0, 20, 0), 30);
+        Check.due("thirty do not", x.wood(warm + 1, 0, 0, 20, 0), -1);
     }
 
     private static void woodBehindWhatIsThere() {

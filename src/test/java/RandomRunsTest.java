@@ -8,8 +8,8 @@ public final class RandomRunsTest {
     private static final String[] BREAD = {"log", "ticks", "ticks", "kind", "second", "put", "put", "put", "put", "move",
         "move", "take", "take", "loaf", "loaf", "loaf", "room", "sum", "heat", "count"};
     private static final String[] PLAN = {"log", "log", "log", "ticks", "kind", "kind", "second", "order", "order",
-        "opening", "opening", "clear", "plan", "planned", "planned", "planned", "last", "wood", "damp", "crack", "fire",
-        "put", "take", "take"};
+        "order", "opening", "opening", "clear", "plan", "planned", "planned", "planned", "last", "wood", "damp", "crack",
+        "fire", "put", "take", "take"};
     private static final String[] TURNS = {"households", "custom", "told", "told", "told", "told", "told", "slots", "at",
         "at", "at", "at", "at", "waits", "waits", "count"};
     private static final String[] NOTES = {"note", "note", "note", "note", "note", "note", "note", "lose", "bricks",
@@ -22,7 +22,7 @@ public final class RandomRunsTest {
     public static void main(String[] args) {
         runs("oven", OVEN, 40, 300);
         runs("bread", BREAD, 60, 500);
-        runs("plan", PLAN, 60, 200);
+        runs("plan", PLAN, 150, 200);
         runs("turns", TURNS, 40, 300);
         runs("notes", NOTES, 30, 300);
         runs("all", ALL, 40, 500);
@@ -61,6 +61,11 @@ public final class RandomRunsTest {
             return low;
         }
         return way < 9 ? high : low + draw(Math.max(1, high - low + 1));
+    }
+
+    /** Near the warmth of a ring now, so that kinds differ by rings and some are scorched. */
+    private static int below(int ring, int less) {
+        return (int) Math.max(0, Math.min(1800, y.heat(ring, 0, 1) - draw(less)));
     }
 
     private static void oneCall(String where, String call) {
@@ -126,9 +131,9 @@ public final class RandomRunsTest {
                 f = draw(2) == 0;
                 b = draw(2) == 0 ? num(1, 30) : 1 + draw(3);
                 c = draw(2) == 0 ? num(b, 60) : b + draw(10);
-                d = draw(3) == 0 ? num(0, 2000) : draw(100);
-                e = draw(3) == 0 ? num(d, 2000) : d + draw(500);
-                g = num(0, 9);
+                d = draw(3) == 0 ? num(0, 2000) : below(draw(4), 60);
+                e = draw(3) == 0 ? num(d, 2000) : d + 60 + draw(120);
+                g = draw(2) == 0 ? num(0, 9) : draw(2);
                 Check.due(where + "kind(" + a + ", " + f + ", " + b + ", " + c + ", " + d + ", " + e + ", " + g + ")",
                     x.kind(a, f, b, c, d, e, g), y.kind(a, f, b, c, d, e, g));
                 break;
