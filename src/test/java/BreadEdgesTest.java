@@ -117,8 +117,7 @@ public final class BreadEdgesTest {
         Check.due("a crown of 3", x.kind(3, true, 1, 1, 0, 0, 0), 2);
     }
 
-    private static void eightKinds(VillageOven x) {
-        Stories.opened(x);
+    private static void fillTheKinds(VillageOven x) {
         for (int i = Stories.BUSY_KINDS; i < 8; i++) {
             x.kind(1 + i % 3, i % 3 > 0, 1 + i, 20 + i, 10 * i, 100 * i, i);
         }
@@ -133,11 +132,11 @@ public final class BreadEdgesTest {
         Check.due("the eighth can be put in", x.put(7, 0), 0);
         Check.due("there is no ninth", x.put(8, 0), BAD);
         Check.due("nor will there be", x.kind(1, false, 1, 1, 0, 0, 0), FULL);
-        Twins.unmoved("a kind too many", BreadEdgesTest::eightKinds, y -> y.kind(1, false, 1, 1, 0, 0, 0), FULL);
-        Twins.unmoved("BAD ahead of FULL", BreadEdgesTest::eightKinds, y -> y.kind(4, false, 1, 1, 0, 0, 0), BAD);
-        Twins.unmoved("BAD ahead of FULL, crown", BreadEdgesTest::eightKinds, y -> y.kind(1, true, 1, 1, 0, 0, 0), BAD);
-        Twins.unmoved("BAD ahead of FULL, scorched", BreadEdgesTest::eightKinds,
-            y -> y.kind(1, false, 1, 1, 0, 0, 10), BAD);
+        Stories.Story full = BreadEdgesTest::fillTheKinds;
+        Twins.unmovedBehind("a kind too many", full, y -> y.kind(1, false, 1, 1, 0, 0, 0), FULL);
+        Twins.unmovedBehind("BAD ahead of FULL", full, y -> y.kind(4, false, 1, 1, 0, 0, 0), BAD);
+        Twins.unmovedBehind("BAD ahead of FULL, crown", full, y -> y.kind(1, true, 1, 1, 0, 0, 0), BAD);
+        Twins.unmovedBehind("BAD ahead of FULL, scorched", full, y -> y.kind(1, false, 1, 1, 0, 0, 10), BAD);
     }
 
     /** "behind its first n (1 .. 30) TICKS another span is its". */
@@ -155,7 +154,7 @@ public final class BreadEdgesTest {
     private static void secondNotTwice() {
         Twins.unmoved("again", Stories::resting, x -> x.second(0, 30, 0, 0), NOT);
         Twins.unmovedWithLoaves("again, loaves of it inside", x -> x.second(0, 30, 0, 0), NOT);
-        Twins.unmoved("again the same", Stories::resting, x -> x.second(0, 2, 20, 900), NOT);
+        Twins.unmoved("again the same", Stories::resting, x -> x.second(0, 30, 20, 900), NOT);
         Twins.unmoved("BAD ahead of NOT, n", Stories::resting, x -> x.second(0, 31, 0, 0), BAD);
         Twins.unmoved("BAD ahead of NOT, span", Stories::resting, x -> x.second(0, 1, 1, 0), BAD);
     }

@@ -103,8 +103,7 @@ public final class NotesEdgesTest {
         Twins.unmovedEverywhere("bricks: both are out of bounds", x -> x.bricks(4, 61), BAD);
     }
 
-    private static void tenBricks(VillageOven x) {
-        Stories.opened(x);
+    private static void fillTheBricks(VillageOven x) {
         for (int week = 0; week <= 60; week += 3) {
             x.note(week, 0, PALE);
             x.note(week, 3, BURNT);
@@ -121,10 +120,10 @@ public final class NotesEdgesTest {
             Check.due("bricks, of the same ring and week", x.bricks(3, 60), i);
         }
         Check.due("too many", x.bricks(3, 60), FULL);
-        Twins.unmoved("once too often", NotesEdgesTest::tenBricks, y -> y.bricks(0, 1), FULL);
-        Twins.unmoved("the same once more", NotesEdgesTest::tenBricks, y -> y.bricks(1, 6), FULL);
-        Twins.unmoved("BAD ahead of FULL, ring", NotesEdgesTest::tenBricks, y -> y.bricks(4, 1), BAD);
-        Twins.unmoved("BAD ahead of FULL, week", NotesEdgesTest::tenBricks, y -> y.bricks(0, 61), BAD);
+        Twins.unmovedBehind("once too often", NotesEdgesTest::fillTheBricks, y -> y.bricks(0, 1), FULL);
+        Twins.unmovedBehind("the same once more", NotesEdgesTest::fillTheBricks, y -> y.bricks(1, 6), FULL);
+        Twins.unmovedBehind("BAD ahead of FULL, ring", NotesEdgesTest::fillTheBricks, y -> y.bricks(4, 1), BAD);
+        Twins.unmovedBehind("BAD ahead of FULL, week", NotesEdgesTest::fillTheBricks, y -> y.bricks(0, 61), BAD);
     }
 
     /** "BEST: 0 which sort .., 1 RING, 2 the WEEK f .., 3 how many NOTES it EXPLAINS. BAD." */

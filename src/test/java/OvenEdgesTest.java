@@ -149,8 +149,7 @@ public final class OvenEdgesTest {
         Twins.unmovedEverywhere("log: both are out of bounds", x -> x.log(0, 61), BAD);
     }
 
-    private static void fullFire(VillageOven x) {
-        Stories.opened(x);
+    private static void fillTheFire(VillageOven x) {
         for (int i = Stories.BUSY_LOGS; i < 30; i++) {
             x.log(1 + i, 2 * i);
         }
@@ -168,9 +167,9 @@ public final class OvenEdgesTest {
         for (int i = 1; i <= 30; i++) {
             Check.due("log " + i, x.log(1, 0), i);
         }
-        Twins.unmoved("a log too many", OvenEdgesTest::fullFire, x1 -> x1.log(50, 0), FULL);
-        Twins.unmoved("BAD ahead of FULL, by size", OvenEdgesTest::fullFire, x1 -> x1.log(51, 0), BAD);
-        Twins.unmoved("BAD ahead of FULL, by water", OvenEdgesTest::fullFire, x1 -> x1.log(50, 61), BAD);
+        Twins.unmovedBehind("a log too many", OvenEdgesTest::fillTheFire, x1 -> x1.log(50, 0), FULL);
+        Twins.unmovedBehind("BAD ahead of FULL, by size", OvenEdgesTest::fillTheFire, x1 -> x1.log(51, 0), BAD);
+        Twins.unmovedBehind("BAD ahead of FULL, by water", OvenEdgesTest::fillTheFire, x1 -> x1.log(50, 61), BAD);
         Check.due("one burns", x.ticks(1), 29);
         Check.due("one more again", x.log(1, 0), 30);
         Check.due("and no more", x.log(1, 0), FULL);
@@ -225,6 +224,7 @@ public final class OvenEdgesTest {
     /** "0 IN, 1 HELD, 2 LOST, 3 GIVEN, 4 HELD at first. -2: BAD." */
     private static void sumBounds() {
         Twins.bounds("sum", Stories::untouched, 0, 4, (x, v) -> (int) x.sum(v));
+        Twins.bounds("sum, busy", Stories::busy, 0, 4, (x, v) -> (int) x.sum(v));
         Twins.bounds("sum, open", Stories::opened, 0, 4, (x, v) -> (int) x.sum(v));
         long[] want = {0, 4000, 0, 0, 4000};
         for (int what = 0; what < 5; what++) {

@@ -76,11 +76,6 @@ public final class PlanEdgesTest {
         Twins.unmoved("no kinds", Stories::untouched, x -> x.order(0), BAD);
     }
 
-    private static void fourOrdersAndMuchElse(VillageOven x) {
-        Stories.opened(x);
-        x.order(1);
-    }
-
     private static void fourOrders(VillageOven x) {
         even(x);
         for (int i = 0; i < 4; i++) {
@@ -99,7 +94,7 @@ public final class PlanEdgesTest {
         }
         Check.due("four", x.count(3), 4);
         Twins.unmoved("an order too many", PlanEdgesTest::fourOrders, y -> y.order(0), FULL);
-        Twins.unmoved("a fifth with loaves inside", PlanEdgesTest::fourOrdersAndMuchElse, y -> y.order(0), FULL);
+        Twins.unmovedBehind("a fifth with loaves inside", y -> y.order(1), y -> y.order(0), FULL);
         Twins.unmoved("BAD ahead of FULL", PlanEdgesTest::fourOrders, y -> y.order(5), BAD);
         Twins.unmoved("BAD ahead of FULL, below", PlanEdgesTest::fourOrders, y -> y.order(-1), BAD);
         x.clear();
@@ -143,10 +138,7 @@ public final class PlanEdgesTest {
         };
         Twins.unmoved("an opening too many", three, x -> x.opening(10), FULL);
         Twins.unmoved("the last tick of all", three, x -> x.opening(40), FULL);
-        Twins.unmoved("a fourth with loaves inside", x -> {
-            Stories.opened(x);
-            x.opening(9);
-        }, x -> x.opening(10), FULL);
+        Twins.unmovedBehind("a fourth with loaves inside", x -> x.opening(9), x -> x.opening(10), FULL);
         Twins.unmoved("BAD ahead of FULL: not behind the last", three, x -> x.opening(9), BAD);
         Twins.unmoved("BAD ahead of FULL: above 40", three, x -> x.opening(41), BAD);
         Twins.unmoved("BAD ahead of FULL: below 0", three, x -> x.opening(-1), BAD);

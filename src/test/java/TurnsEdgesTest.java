@@ -192,8 +192,7 @@ public final class TurnsEdgesTest {
         }
     }
 
-    private static void thirty(VillageOven x) {
-        Stories.opened(x);
+    private static void fillWhatIsTold(VillageOven x) {
         for (int i = Stories.BUSY_TOLD; i < 30; i++) {
             x.told(i < 29 ? i : 60, i % 4, (i + 1) % 4, i % 3 == 0);
         }
@@ -207,12 +206,12 @@ public final class TurnsEdgesTest {
             Check.due("so many", x.count(8), i + 1);
         }
         row("the thirtieth is kept", x, 29, 0, 2, 3, 1);
-        Twins.unmoved("once too often, a swap", TurnsEdgesTest::thirty, y -> y.told(60, 0, 1, false), FULL);
-        Twins.unmoved("once too often, a gift", TurnsEdgesTest::thirty, y -> y.told(45, 0, 1, true), FULL);
-        Twins.unmoved("BAD ahead of FULL, week", TurnsEdgesTest::thirty, y -> y.told(61, 0, 1, false), BAD);
-        Twins.unmoved("BAD ahead of FULL, a", TurnsEdgesTest::thirty, y -> y.told(0, 5, 1, false), BAD);
-        Twins.unmoved("BAD ahead of FULL, b", TurnsEdgesTest::thirty, y -> y.told(0, 0, 5, true), BAD);
-        Twins.unmoved("BAD ahead of FULL, itself", TurnsEdgesTest::thirty, y -> y.told(0, 2, 2, true), BAD);
+        Twins.unmovedBehind("once too often, a swap", TurnsEdgesTest::fillWhatIsTold, y -> y.told(60, 0, 1, false), FULL);
+        Twins.unmovedBehind("once too often, a gift", TurnsEdgesTest::fillWhatIsTold, y -> y.told(45, 0, 1, true), FULL);
+        Twins.unmovedBehind("BAD ahead of FULL, week", TurnsEdgesTest::fillWhatIsTold, y -> y.told(61, 0, 1, false), BAD);
+        Twins.unmovedBehind("BAD ahead of FULL, a", TurnsEdgesTest::fillWhatIsTold, y -> y.told(0, 5, 1, false), BAD);
+        Twins.unmovedBehind("BAD ahead of FULL, b", TurnsEdgesTest::fillWhatIsTold, y -> y.told(0, 0, 5, true), BAD);
+        Twins.unmovedBehind("BAD ahead of FULL, itself", TurnsEdgesTest::fillWhatIsTold, y -> y.told(0, 2, 2, true), BAD);
     }
 
     private static void toldOfTheFirstAndLastWeek() {

@@ -25,7 +25,7 @@ final class Twins {
         List.of(Twins::lookAtOven, Twins::lookAtBread, Twins::lookAtPlans, Twins::lookAtTurns, Twins::lookAtNotes);
     private static final int MOST_CALLS = 512;
     /** Loaves with numbers below this one are looked at. */
-    private static final int LOAVES = 14;
+    private static final int LOAVES = 18;
 
     private Twins() {
     }
@@ -58,8 +58,19 @@ final class Twins {
     }
 
     static void unmovedWithLoaves(String what, Call call, long due) {
-        unmoved("busy oven: " + what, Stories::busy, call, due);
-        unmoved("open oven: " + what, Stories::opened, call, due);
+        unmovedBehind(what, Stories::untouched, call, due);
+    }
+
+    /** With loaves inside, behind what more is told, which mostly fills something up. */
+    static void unmovedBehind(String what, Stories.Story more, Call call, long due) {
+        unmoved("busy oven: " + what, x -> {
+            Stories.busy(x);
+            more.tell(x);
+        }, call, due);
+        unmoved("open oven: " + what, x -> {
+            Stories.opened(x);
+            more.tell(x);
+        }, call, due);
     }
 
     /** low and high are taken; what is beyond them, near and far, is BAD and changes nothing. */
