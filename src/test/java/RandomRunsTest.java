@@ -15,17 +15,20 @@ public final class RandomRunsTest {
     private static final String[] NOTES = {"note", "note", "note", "note", "note", "note", "note", "lose", "bricks",
         "best", "best", "explains", "count"};
 
+    /** An object is used for 512 calls at most; compareAll makes the rest of them. */
+    private static final int LONGEST = 512 - 39;
+
     private static long state = 20261118L;
     private static VillageOven x;
     private static Reference y;
 
     public static void main(String[] args) {
         runs("oven", OVEN, 40, 300);
-        runs("bread", BREAD, 60, 500);
+        runs("bread", BREAD, 60, LONGEST);
         runs("plan", PLAN, 150, 200);
         runs("turns", TURNS, 40, 300);
         runs("notes", NOTES, 30, 300);
-        runs("all", ALL, 40, 500);
+        runs("all", ALL, 40, LONGEST);
         Check.finish();
     }
 
